@@ -503,18 +503,21 @@ public final class GroupTrees {
             return NONE;
         }
         course.drawing();
+        int loss = net.plan.loss;
+        // Where no number is drawn, all ten times go alike.
+        int times = loss == 0 || loss == 100 ? 1 : 10;
         int last = seed;
-        int times = 0;
-        for (int i = 0; i < 10; i++) {
+        int enough = 0;
+        for (int i = 0; i < times; i++) {
             trial.copyFrom(now);
             trial.random = last;
             course.run(trial, n);
             last = trial.random;
             if (trial.heard[node] >= heard) {
-                times++;
+                enough++;
             }
         }
-        return times;
+        return times == 1 ? enough * 10 : enough;
     }
 
     public int tried(int what, int i, int n) {
@@ -660,11 +663,15 @@ public final class GroupTrees {
         int knots = 0;
         int size = 0;
 
-        void clear() {
+        void forget() {
             Arrays.fill(begin, 0);
             Arrays.fill(end, 0);
             knots = 0;
             size = 0;
+        }
+
+        boolean isTold(int law) {
+            return end[law - METRIC] > begin[law - METRIC];
         }
 
         void emit(int what, int value) {
@@ -700,7 +707,7 @@ public final class GroupTrees {
         int seed = 0;
 
         void clear() {
-            laws.clear();
+            laws.forget();
             nodes = 0;
             links = 0;
             sources = 0;
@@ -927,6 +934,9 @@ public final class GroupTrees {
     /** The TREES of a TEXT by what is whole: FAR, UP, who wants what, the laws worked out. */
     private static final class Net {
         final int[] far = new int[TREES * NODES];
+        // UP as the LINK alone tells it, and the NODES among which metric has to choose (0: none).
+        private final int[] firstUp = new int[TREES * NODES];
+        private final int[] rivals = new int[TREES * NODES];
         private final long[] stack = new long[KNOTS];
         private boolean measured = false;
         private int measuredCut = 0;
@@ -948,46 +958,64 @@ public final class GroupTrees {
             }
             for (int tree = 0; tree <= plan.sources; tree++) {
                 plan.spread(plan.cost, cut, plan.root(tree), far, tree * NODES);
+                for (int node = 0; node < plan.nodes; node++) {
+                    lookUp(cut, tree * NODES, node);
+                }
             }
             measured = true;
             measuredCut = cut;
         }
 
-        /** UP of a NODE: LINKS times the LINK, and the NODE; NONE without. */
-        int climb(State state, int tree, int node) {
-            int own = far[tree * NODES + node];
-            if (own == 0 || own >= NOWHERE) {
-                return NONE;
-            }
-            for (int link = 0; link < plan.links; link++) {
-                if ((state.cut >> link & 1) == 0 && (plan.members[link] >> node & 1) != 0) {
-                    int near = nearer(plan.members[link], tree, own - plan.cost[link]);
-                    if (near != 0) {
-                        return link * LINKS + preferred(state, tree, near);
-                    }
+        private void lookUp(int cut, int row, int node) {
+            firstUp[row + node] = NONE;
+            rivals[row + node] = 0;
+            int own = far[row + node];
+            for (int link = 0; link < plan.links && own < NOWHERE; link++) {
+                int on = (cut >> link & 1) == 0 ? plan.members[link] : 0;
+                int near = (on >> node & 1) == 0 ? 0 : nearer(on, row, own - plan.cost[link]);
+                if (near != 0) {
+                    firstUp[row + node] = link * LINKS + lowest(near);
+                    // Without metric those left are equally FAR, so the first one is UP.
+                    rivals[row + node] = plan.laws.isTold(METRIC) && (near & near - 1) != 0 ? near : 0;
+                    return;
                 }
             }
-            return NONE;
         }
 
-        private int nearer(int on, int tree, int due) {
+        private int nearer(int on, int row, int due) {
             int bits = 0;
             for (int node = 0; node < plan.nodes; node++) {
-                if ((on >> node & 1) != 0 && far[tree * NODES + node] == due) {
+                if ((on >> node & 1) != 0 && far[row + node] == due) {
                     bits |= 1 << node;
                 }
             }
             return bits;
         }
 
-        /** Of these NODES the one of which metric is least; a NODE alone needs no metric. */
+        private static int lowest(int bits) {
+            int node = 0;
+            for (int i = 0; i < NODES && (bits >> node & 1) == 0; i++) {
+                node++;
+            }
+            return node;
+        }
+
+        /** UP of a NODE: LINKS times the LINK, and the NODE; NONE without. */
+        int climb(State state, int tree, int node) {
+            int at = tree * NODES + node;
+            if (rivals[at] == 0) {
+                return firstUp[at];
+            }
+            return firstUp[at] / LINKS * LINKS + preferred(state, tree, rivals[at]);
+        }
+
+        /** Of these NODES the one of which metric is least. */
         private int preferred(State state, int tree, int bits) {
-            boolean alone = (bits & bits - 1) == 0;
             int best = NONE;
             long least = 0;
             for (int node = 0; node < plan.nodes; node++) {
                 if ((bits >> node & 1) != 0) {
-                    long metric = alone ? ERROR : work(METRIC, state, tree, node);
+                    long metric = work(METRIC, state, tree, node);
                     if (metric == ERROR) {
                         metric = far[tree * NODES + node];
                     }
