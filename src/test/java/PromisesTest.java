@@ -224,6 +224,20 @@ public final class PromisesTest {
         faulty("law keep (1 or ) ;", 1, 15);
         faulty("law keep 1 !", 1, 11);
         faulty("law keep (1+", 1, 12);
+        faulty("law keep 1 += 2;", 1, 12);
+        faulty("law or 1;", 1, 4);
+        faulty("node a;node b;link 1 a abcdefgh;", 1, 23);
+        faulty(times(";", 700), 1, 0);
+        GroupTrees x = new GroupTrees();
+        put(x, "law keep 1<=2;");
+        due("what is behind the first n isn't read", x.text(11), -1);
+        due("it ends there", x.fault(1), 11);
+        put(x, "node ab;");
+        due("nor letters", x.text(6), -1);
+        due("it ends there too", x.fault(1), 6);
+        put(x, "hold 12;");
+        due("nor digits", x.text(6), -1);
+        due("there, too", x.fault(1), 6);
     }
 
     private static void faultsBeyond() {
@@ -240,6 +254,7 @@ public final class PromisesTest {
         faulty("node a;" + times("join a 1;", 16) + "leave a 1;", 2, 151);
         faulty("node a;source s a;" + times("send s 1;", 14) + "send s 1;", 2, 144);
         faulty("node a;join a 100;", 2, 14);
+        faulty("node a;source s a;send s 100;", 2, 25);
         faulty("cut 8 1;", 2, 4);
         faulty("mend 4294967296 1;", 2, 5);
         faulty("hold 0;", 2, 5);
@@ -262,6 +277,7 @@ public final class PromisesTest {
         faulty("node a;meet a;meet", 3, 14);
         faulty("node a;source s a;source s a;", 3, 25);
         faulty("hold 1;hold 99;", 3, 7);
+        faulty("hold 1;loss 1;seed 1;hold 1;", 3, 21);
         faulty("loss 1;loss", 3, 7);
         faulty("seed 1;seed 1;", 3, 7);
         faulty("law keep 1;law keep", 3, 15);
@@ -414,7 +430,8 @@ public final class PromisesTest {
         due("or below and", formula("1 or 0 and 0", 0, 0), 1);
         due("in brackets", formula("(1 or 0) and 0", 0, 0), 0);
         due("sums bind closer than comparisons", formula("1 + 1 < 1 + 2", 0, 0), 1);
-        due("unlike", formula("1 <> 2", 0, 0), 1);
+        due("unlike", formula("2 <> 1", 0, 0), 1);
+        due("alike", formula("2 <> 2", 0, 0), 0);
         due("at least", formula("2>=3", 0, 0), 0);
         due("at most", formula("2<=2", 0, 0), 1);
         due("what isn't 0 is as 1", formula("(0 - 5) and 3", 0, 0), 1);
@@ -514,6 +531,12 @@ public final class PromisesTest {
         // From seed 0 on: 0, 21468, 9988, 22117, 3498, 16927, 16045.
         due("0 and 17", lostOfSeven("loss 18;"), 2);
         due("0", lostOfSeven("loss 1;seed 0;"), 1);
+        GroupTrees later = of("seed 1;hold 2;loss 99;law keep 5;law switch 1;law metric 0;");
+        tell(later, "node a;node b;link 1 a b;source s a;join b 0;send s 1;loss 1;");
+        later.go(2);
+        due("a seed of an earlier text is gone", later.node(1, 4), 1);
+        due("its hold and its laws too", later.held(0, 0, 0), 4);
+        due("its knots", later.count(3), 0);
         GroupTrees z = of("node a;node b;link 1 a b;source s a;join b 0;law switch 0;loss 100;send s 1;");
         z.go(2);
         due("all lost", z.node(1, 4), 1);
@@ -532,6 +555,14 @@ public final class PromisesTest {
         x.go(3);
         due("b sent on link 2, c lost an assert", x.count(11), 1);
         due("d's up is c, so it missed it", x.node(3, 4), 1);
+        x.keep();
+        x.send(0);
+        due("a second one", x.count(11), 2);
+        x.undo();
+        due("undone", x.count(11), 1);
+        x.send(0);
+        x.back();
+        due("as in the image", x.count(11), 1);
         GroupTrees y = of(WANDER + "law switch 0;hold 2;send s 4;");
         y.go(5);
         due("b's hold has faded", y.count(11), 0);
@@ -624,6 +655,11 @@ public final class PromisesTest {
         due("what below", x.ahead(1, -1), -1);
         due("nothing went by", x.count(4), 0);
         due("nothing heard", x.count(6), 0);
+        x.go(2);
+        due("more than now: heard", x.ahead(2, 0), 2);
+        due("more than now: twice", x.ahead(2, 1), 0);
+        due("more than now: suppressed", x.ahead(1, 4), 1);
+        due("tried: more than now", x.tried(0, 0, 2), 2);
         GroupTrees y = of("node a;node b;node c;link 1 a b;link 1 b c;meet b;source s a;source t c;send s 0;join a 2;send t 1;send s 2;");
         due("a register", y.ahead(1, 3), 1);
         due("two registers", y.ahead(2, 3), 2);
@@ -667,6 +703,15 @@ public final class PromisesTest {
         due("never", z.settled(), -2);
         GroupTrees w = of(SQUARE);
         due("events don't come", w.settled(), 0);
+        // UP of d goes to and fro between b and c until a TICK.
+        String fro = "node d;node b;node c;node a;link 1 a b;link 1 a c;link 1 b c d;meet a;join d 0;hold 1;"
+            + "law metric (place + tick) / 2 * 2 = place + tick and tick < ";
+        GroupTrees u = of(fro + "99;");
+        u.listen(0);
+        due("99 at most", u.settled(), 99);
+        GroupTrees v = of(fro + "101;");
+        v.listen(0);
+        due("not by then", v.settled(), -2);
     }
 
     private static void wayAndBest() {
@@ -855,6 +900,10 @@ public final class PromisesTest {
         due("left", x.ask(2, 2), 1);
         x.note(0, 3, 99, false);
         due("none fits", x.ask(2, 2), 0);
+        GroupTrees nine = of("node a;node b;link 3 a b;");
+        nine.note(0, 1, 8, false);
+        due("9 alone fits", nine.costs(0), 256);
+        due("it is left", nine.ask(0, 2), 1);
         due("the first", x.ask(2, 0), 0);
         due("the first's second", x.ask(2, 1), 1);
         due("no link", x.ask(3, 0), -1);
