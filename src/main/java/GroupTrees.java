@@ -1506,8 +1506,8 @@ public final class GroupTrees {
         void begin(int length) {
             end = Math.min(length, size);
             next = 0;
-            int count = 0;
-            for (kind = BAD; count <= TAPE && kind != END; count++) {
+            kind = BAD;
+            for (int count = 0; count <= TAPE && kind != END; count++) {
                 scan();
                 kinds[count] = kind;
                 places[count] = place;
