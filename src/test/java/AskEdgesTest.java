@@ -101,6 +101,12 @@ public final class AskEdgesTest {
         for (int what = 0; what < 5; what++) {
             due("of no ticks", late.ahead(0, what), 0);
         }
+        GroupTrees much = Checks.rich();
+        for (int what = 0; what < 5; what++) {
+            Checks.holds("some are counted already, " + what, much.count(6 + what) > 0);
+            due("of no ticks more, " + what, much.ahead(0, what), 0);
+            due("tried, " + what, much.tried(what, 0, 0), 0);
+        }
         about("17: behind 9000 too");
         GroupTrees end = of("node a;source s a;");
         for (int i = 0; i < 45; i++) {
@@ -159,6 +165,24 @@ public final class AskEdgesTest {
             due("until " + end[0], y.settled(), end[1]);
         }
         about("19: LISTENERS as now, no EVENTS, no SENDS coming");
+        GroupTrees noCut = of(CHAIN + "cut 0 0;");
+        noCut.listen(2);
+        due("a cut that would come", noCut.settled(), 2);
+        GroupTrees noSend = of(PAIR + "send s 0;");
+        noSend.listen(1);
+        due("a send that would come", noSend.settled(), 1);
+        GroupTrees noJoin = of(CHAIN + "join c 0;");
+        noJoin.listen(1);
+        due("a join that would come", noJoin.settled(), 1);
+        due("the same behind what was asked", noJoin.ahead(3, 0) + noJoin.settled(), 1);
+        about("19: the LINKS as they are now");
+        GroupTrees cut = of(CHAIN);
+        due("far", cut.far(0, 2), 2);
+        cut.listen(2);
+        cut.cut(1);
+        due("c has no up", cut.settled(), 0);
+        cut.cut(1);
+        due("it has", cut.settled(), 2);
         GroupTrees z = of(CHAIN + "leave c 1;cut 1 1;send s 1;");
         z.listen(2);
         due("it goes on listening", z.settled(), 2);
@@ -283,6 +307,8 @@ public final class AskEdgesTest {
         y.cut(0);
         y.cut(1);
         due("or this", y.needed(0), 5);
+        due("from a, not from what is beside it", of("node a;node b;node c;link 1 a c;join c 0;", 1).needed(0), 1);
+        due("from c of three", of("node a;node b;node c;node d;link 1 a c;meet c;join a 0;", 1).needed(0), 1);
         about("23: NONE: no such TREE");
         for (int tree : Checks.WILD) {
             refusedOrNot("needed " + tree, x.needed(tree), within(tree, 2));
@@ -295,6 +321,9 @@ public final class AskEdgesTest {
             due("of nothing " + tree, new GroupTrees().used(tree), tree == 0 ? 0 : -1);
         }
         about("24: the most FAR (99 not counted)");
+        due("of NODE 0", of(CHAIN + "meet c;").wide(0), 2);
+        due("of the last NODE", of(CHAIN).wide(0), 2);
+        due("of one between", of("node a;node b;node c;link 9 a b;link 1 a c;").wide(0), 9);
         x.cut(2);
         due("54", x.wide(0), 54);
         due("27", x.wide(1), 27);
@@ -578,6 +607,30 @@ public final class AskEdgesTest {
                 question(link, most, far);
             }
         }
+        GroupTrees late = of("node a;node b;node c;node d;link 1 c d;");
+        due("c", late.ask(0, 0), 2);
+        due("d", late.ask(0, 1), 3);
+        due("one", late.ask(0, 2), 1);
+        for (int cost = 1; cost <= 9; cost++) {
+            GroupTrees single = of(PAIR);
+            single.note(0, 1, cost, true);
+            single.note(0, 1, cost - 1, false);
+            due("only " + cost, single.costs(0), 1 << cost - 1);
+            due("it is left", single.ask(0, 2), 1);
+        }
+        due("nine, told apart by nothing", of("node a;node b;link 1 a b;link 1 a b;").ask(0, 2), 9);
+        about("32, 33: COSTS of a later text");
+        GroupTrees told = of(SEVEN + "link 1 a b;link 1 b c;link 1 c d;link 1 d e;link 1 e f;link 1 f g;");
+        due("asked", told.ask(0, 2), 1);
+        Checks.tell(told, "node a;node b;link 1 a b;link 1 a b;");
+        due("nine", told.ask(0, 2), 9);
+        due("a", told.ask(0, 0), 0);
+        due("b", told.ask(0, 1), 1);
+        told.note(0, 1, 0, false);
+        due("all", told.costs(0), 511);
+        Checks.tell(told, "node a;node b;link 1 a b;");
+        told.note(0, 1, 4, true);
+        due("four", told.costs(0), 15);
         about("33: none, if none fits");
         GroupTrees none = of(square(1, 3));
         none.note(0, 1, 99, false);
@@ -651,6 +704,10 @@ public final class AskEdgesTest {
                 due("never six", x.chance(seed, 40, 1, 6), 0);
             }
         }
+        for (int seed = 0; seed < 40; seed++) {
+            due("one of a hundred, seed " + seed, of(text + "loss 99;").chance(seed, 40, 1, 1), enough(seed, 99, 5)[1]);
+            due("99 of a hundred, seed " + seed, of(text + "loss 1;").chance(seed, 40, 1, 5), enough(seed, 1, 5)[5]);
+        }
         about("34: n 1 .. 40 TICKS from now");
         GroupTrees y = of(text);
         due("39: up to 38", y.chance(1, 39, 1, 1), 0);
@@ -687,6 +744,16 @@ public final class AskEdgesTest {
         }
     }
 
+    private static long ask(GroupTrees x, int which) {
+        switch (which) {
+            case 5: return x.ahead(9, 0);
+            case 6: return x.quiet(0);
+            case 7: return x.settled();
+            case 8: return x.chance(3, 9, 2, 6);
+            default: return x.tried(which, which == 2 ? 2 : 0, 9);
+        }
+    }
+
     /** HEARD by all in so many TICKS of a text. */
     private static int heard(String text, int n) {
         return of(text, n).count(6);
@@ -695,21 +762,28 @@ public final class AskEdgesTest {
     private static void trying() {
         String open = Checks.RICH.replace("loss 30;", "loss 0;");
         String lossy = Checks.RICH.replace("loss 30;", "loss 50;");
+        String[] silent = {open.replace("join a 1;", ""), open.replace("join b 0;", ""),
+            open.replace("join c 0;", "").replace("join c 8;", ""), open};
         for (int n : new int[] {0, 1, 2, 3, 4, 6, 7, 8, 9, 12, 59, 60}) {
             about("35: 0 nothing is LOST");
             due("n " + n, of(Checks.RICH).tried(0, 0, n), heard(open, n));
             due("of loss 50, n " + n, of(lossy).tried(0, 0, n), heard(open, n));
             about("35: 1 nobody SWITCHES any more");
-            due("n " + n, of(Checks.RICH).tried(1, 0, n), heard(open.replace("law switch heard > 1;", "law switch 0;"), n));
+            due("n " + n, of(Checks.RICH).tried(1, 0, n), heard(open.replace("heard > 1", "0"), n));
             due("of loss 50, n " + n, of(lossy).tried(1, 0, n), heard(open.replace("loss 0;", "loss 100;").replace("heard > 1", "0"), n));
             about("35: 2 NODE i LISTENS no more, whatever EVENTS");
-            due("b, n " + n, of(Checks.RICH).tried(2, 1, n), heard(open.replace("join b 1;", ""), n));
-            due("d, n " + n, of(Checks.RICH).tried(2, 3, n), heard(open.replace("join d 0;", ""), n));
-            due("a never did, n " + n, of(Checks.RICH).tried(2, 0, n), heard(open, n));
+            for (int i = 0; i < 4; i++) {
+                due("node " + i + ", n " + n, of(Checks.RICH).tried(2, i, n), heard(silent[i], n));
+            }
             about("35: 3 no LINK is CUT by EVENTS");
-            due("n " + n, of(Checks.RICH).tried(3, 0, n), heard(open.replace("cut 3 2;", ""), n));
+            due("n " + n, of(Checks.RICH).tried(3, 0, n), heard(open.replace("cut 2 2;", "").replace("cut 0 8;", ""), n));
             about("35: 4 all is HELD for 1 TICK by a JOIN");
-            due("n " + n, of(Checks.RICH).tried(4, 0, n), heard(open.replace("law keep 3 + held;", "law keep 1;"), n));
+            due("n " + n, of(Checks.RICH).tried(4, 0, n), heard(open.replace("law keep 4 - held;", "law keep 1;"), n));
+        }
+        about("35: each of them makes a difference here");
+        for (int what = 0; what < 5; what++) {
+            GroupTrees x = of(what == 0 ? lossy : Checks.RICH);
+            Checks.holds("what " + what, x.tried(what, 0, 12) != x.ahead(12, 0));
         }
         about("35: 1: who SWITCHED already stays so");
         GroupTrees x = of("node m;node a;link 1 m a;meet m;source s a;join a 0;send s 1;send s 2;hold 9;", 2);
@@ -731,6 +805,27 @@ public final class AskEdgesTest {
         GroupTrees byCall = of(cutNow);
         byCall.cut(0);
         due("cut by call, mended at 2: two", byCall.tried(3, 0, 4), 2);
+        about("17, 34, 35: what was asked ahead makes no difference");
+        for (int what = 0; what < 9; what++) {
+            for (int then = 0; then < 9; then++) {
+                for (String text : new String[] {Checks.RICH, lossy}) {
+                    GroupTrees one = of(text, 5);
+                    GroupTrees other = of(text, 5);
+                    ask(one, what);
+                    due("asked " + what + ", then " + then, ask(one, then), ask(other, then));
+                    due("sent", one.send(0), other.send(0));
+                    ask(one, what);
+                    due("gone", one.go(5), other.go(5));
+                    Checks.same("asked " + what, Checks.shown(one), Checks.shown(other));
+                }
+            }
+        }
+        about("17, 35: as it goes, behind TICKS with numbers");
+        GroupTrees sure = of(PAIR + "join b 0;law switch 0;loss 49;seed 3;" + "send s 1;".repeat(6) + "send s 3;".repeat(6), 2);
+        due("ahead", sure.ahead(2, 0), 6);
+        for (int what = 0; what < 5; what++) {
+            due("tried " + what, sure.tried(what, 0, 2), 6);
+        }
         about("35: NONE: no such ones (i 0 of all but 2)");
         GroupTrees z = Checks.rich();
         for (int what : Checks.WILD) {

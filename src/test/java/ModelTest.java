@@ -1501,7 +1501,7 @@ public final class ModelTest {
                     }
                     case 1 -> out.insert(at, odd[r.nextInt(odd.length)]);
                     case 2 -> out.setCharAt(at, odd[r.nextInt(odd.length)]);
-                    default -> out.insert(at, String.join(" ", RESERVED.toArray(new String[0])).split(" ")[r.nextInt(26)] + " ");
+                    default -> out.insert(at, new ArrayList<>(new TreeSet<>(RESERVED)).get(r.nextInt(26)) + " ");
                 }
             }
         }

@@ -48,10 +48,20 @@ public final class TextEdgesTest {
         due("known by none", x.known(0) ? 1 : 0, 1);
         due("not by one", x.known(1) ? 1 : 0, 0);
         due("ticks go by all the same", x.go(200), 200);
+        due("no loss", x.holds(6, 0), 1);
+        due("none at all", x.holds(6, 1), 1);
         about("1: an empty TAPE");
         due("not one byte", new GroupTrees().text(1), -2);
         due("none is there", new GroupTrees().text(0), 0);
         due("twenty come", Checks.feed(new GroupTrees(), "", 0), 20);
+    }
+
+    private static GroupTrees filled() {
+        GroupTrees x = Checks.rich();
+        for (int i = 0; i < 34; i++) {
+            Checks.feed(x, "", 0);
+        }
+        return x;
     }
 
     private static void feeding() {
@@ -67,7 +77,7 @@ public final class TextEdgesTest {
         due("forty", Checks.feed(y, ";node de;", 0), 40);
         due("blanks between", y.text(29), 2);
         about("2: NONE, and none come, if it would have more than 700");
-        String full = Checks.RICH + " ".repeat(693 - Checks.RICH.length()) + "meet d;";
+        String full = Checks.RICH + " ".repeat(693 - Checks.RICH.length()) + "node e;";
         GroupTrees z = new GroupTrees();
         for (int i = 0; i < 35; i++) {
             due("feed " + i, Checks.feed(z, full, 20 * i), 20 * i + 20);
@@ -76,9 +86,14 @@ public final class TextEdgesTest {
             due("full", z.feed(0x3b3b3b3b, 0x3b3b3b3b, 0x3b3b3b3b, 0x3b3b3b3b, 0x3b3b3b3b), -1);
         }
         due("701", z.text(701), -2);
-        due("700 as they were", z.text(700), 27);
-        due("the last line is there", z.count(13), 3);
+        due("700 as they were", z.text(700), Checks.RICH_LINES + 1);
+        due("the last line is there", z.count(0), 5);
         due("empty then", z.feed(0, 0, 0, 0, 0), 20);
+        Checks.stays("a full tape", TextEdgesTest::filled, one -> Checks.feed(one, "node z;", 0), -1);
+        GroupTrees kept = filled();
+        kept.feed(0, 0, 0, 0, 0);
+        due("its bytes stay", kept.text(700), 2);
+        due("node q", kept.named(0, Checks.code("q")), 0);
         about("2: a byte may be above 127");
         GroupTrees w = new GroupTrees();
         w.feed(0x20202020, 0x2020ff20, 0, 0, 0);
@@ -109,7 +124,7 @@ public final class TextEdgesTest {
         for (int way = 0; way < Checks.PROBES; way++) {
             GroupTrees y = Checks.rich();
             y.text(20);
-            due("lines", Checks.tell(y, Checks.RICH), 26);
+            due("lines", Checks.tell(y, Checks.RICH), Checks.RICH_LINES);
             Checks.same("as new (" + way + ")", Checks.probe(y, way), Checks.probe(Checks.of(Checks.RICH), way));
         }
         GroupTrees z = Checks.rich();
@@ -118,6 +133,54 @@ public final class TextEdgesTest {
         due("no image", z.back(), -1);
         due("nothing to undo", z.undo(), -1);
         due("no note", z.strike(0), -1);
+    }
+
+    /** Of an object that was told much ahead, and asked, nothing is left in a later text. */
+    private static void laterTexts() {
+        about("3: the TEXT is what was told last, whatever was told ahead");
+        String all = "node a;node b;node c;node d;node e;node f;node g;link 9 a g;link 1 g b;link 1 a b;link 2 c d;"
+            + "meet g;source s g;source t a;source u c;join b 0;join a 0;cut 1 1;leave b 2;send t 0;send s 1;send t 2;"
+            + "hold 17;loss 77;seed 99;law metric 0-place;law switch 0;law keep 1+place;";
+        String[] later = {"node a;node b;node c;link 3 b c;link 1 c a;link 3 a b;source s a;join b 0;join c 1;send s 0;send s 3;",
+            "node b;node a;link 1 a b;link 1 a b;source s a;join b 0;send s 1;loss 50;law switch 1;", "node a;", "",
+            "node x;node y;link 4 x y;source v x;join x 3;mend 0 0;hold 2;law keep not tick;"};
+        for (String text : later) {
+            for (String between : new String[] {"", "node a;", "node a;node", "law keep 1+(2*", all}) {
+                for (int way = 0; way < Checks.PROBES; way++) {
+                    GroupTrees x = Checks.of(all);
+                    Checks.shown(x);
+                    x.go(2);
+                    Checks.shown(x);
+                    x.keep();
+                    Checks.tell(x, between);
+                    Checks.shown(x);
+                    Checks.tell(x, text);
+                    Checks.same("as new (" + way + ")", Checks.probe(x, way), Checks.probe(Checks.of(text), way));
+                }
+            }
+        }
+        about("5: names of earlier texts are gone");
+        for (String between : new String[] {"node z;source z z;", "", "node z"}) {
+            GroupTrees x = Checks.of("node a;node b;node c;source s a;source t a;source u a;");
+            Checks.tell(x, between);
+            Checks.tell(x, "node d;source v d;");
+            for (String name : new String[] {"a", "b", "c", "z", "s", "t", "u"}) {
+                due("node " + name, x.named(0, Checks.code(name)), -1);
+                due("source " + name, x.named(1, Checks.code(name)), -1);
+            }
+            due("meet b", Checks.tell(x, "node d;meet b;"), -1);
+            due("isn't told", x.fault(0), 4);
+            due("node b", Checks.tell(x, "node d;node b;source t b;"), 3);
+        }
+        about("Terms: a law behind one that had a FAULT");
+        GroupTrees y = new GroupTrees();
+        for (String broken : new String[] {"law keep 1 + (2 *", "law keep not not (", "law keep 1 < 2 +", "law keep 1 or 2 and x;"}) {
+            Checks.tell(y, broken);
+            due("after " + broken, Checks.tell(y, "node a;law keep not 7 < 8;law metric 1 - 2;law switch 3 = 3;"), 4);
+            due("keep", y.law(2, 0, 0), 0);
+            due("metric", y.law(0, 0, 0), -1);
+            due("knots", y.count(3), 10);
+        }
     }
 
     private static void refusedTexts() {
@@ -460,6 +523,12 @@ public final class TextEdgesTest {
         due("64 again", Checks.tell(x, "law keep " + many + "1;law metric 1;"), 2);
         Checks.tell(x, "law keep 1+");
         due("a fault leaves them", x.count(3), 64);
+        for (int i = 0; i < 5; i++) {
+            due("and again", Checks.tell(x, "node a;law keep " + many + "1;law metric 7;"), 3);
+            due("64", x.count(3), 64);
+            due("their sum", x.law(2, 0, 0), 32);
+            due("the other law", x.law(0, 0, 0), 7);
+        }
     }
 
     private static void toldAlready() {
@@ -481,7 +550,14 @@ public final class TextEdgesTest {
             refused(ABC + line + line.substring(0, 4), 3, 50);
             refused(ABC + line + line.substring(0, 4) + " 999999;", 3, 50);
         }
-        taken(ABC + "meet a;hold 1;loss 1;seed 1;", 9);
+        String once = ABC + "meet a;hold 1;loss 1;seed 1;law keep 1;law metric 1;law switch 1;";
+        taken(once, 12);
+        for (String word : new String[] {"meet", "hold", "loss", "seed"}) {
+            refused(once + word, 3, once.length());
+        }
+        for (String law : new String[] {"keep", "metric", "switch"}) {
+            refused(once + "law " + law, 3, once.length() + 4);
+        }
         about("Terms: 3: a law of its LAW (at LAW)");
         String[] laws = {"metric", "switch", "keep"};
         for (String one : laws) {
@@ -708,6 +784,7 @@ public final class TextEdgesTest {
         newObject();
         feeding();
         telling();
+        laterTexts();
         refusedTexts();
         faultCall();
         naming();

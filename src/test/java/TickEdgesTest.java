@@ -153,6 +153,22 @@ public final class TickEdgesTest {
         due("b 2, c 1 by error", of(FORK + "law metric 0 - 2 / (place - 2);").up(0, 3, 1), 2);
         due("b 1, c 1 by error", of(FORK + "law metric 0 - 1 / (place - 2);").up(0, 3, 1), 1);
         due("both by error", of(FORK + "law metric 1 / 0;").up(0, 3, 1), 1);
+        String low = "node b;node c;node d;node a;link 1 a b;link 1 a c;link 1 b c d;meet a;";
+        due("NODES 0 and 1, without", of(low).up(0, 2, 1), 0);
+        due("NODES 0 and 1, alike", of(low + "law metric 5;").up(0, 2, 1), 0);
+        due("NODES 0 and 1, place", of(low + "law metric place;").up(0, 2, 1), 0);
+        due("NODES 0 and 1, less place", of(low + "law metric 0 - place;").up(0, 2, 1), 1);
+        String beyond = "node a;node b;node c;node d;node e;link 1 a b;link 1 a c;link 1 b c d;link 5 d e;source s e;";
+        due("FAR in that TREE: b 1, c 3", of(beyond + "law metric 3 * (place = 2) / (place - 1);").up(0, 3, 1), 1);
+        due("in that of s: d 5, e 0", of(beyond + "law metric 1 / 0;").up(1, 1, 1), 3);
+        about("9: no UP any more, whatever metric chose ahead");
+        GroupTrees off = of(FORK + "law metric 0 - place;");
+        due("c", off.up(0, 3, 1), 2);
+        off.cut(2);
+        due("cut off", off.up(0, 3, 1), -2);
+        due("by link", off.up(0, 3, 0), -2);
+        due("no way", off.way(0, 3), -2);
+        due("nothing joined", off.listen(3) + off.go(1) + off.count(12), 2);
         about("2: a NODE whose FAR and the COST come to its own FAR");
         GroupTrees z = of("node a;node b;node c;node d;link 1 a b;link 5 a c;link 1 b c d;law metric 0 - place;");
         due("c is as far as d", z.up(0, 3, 1), 1);
@@ -211,7 +227,7 @@ public final class TickEdgesTest {
                 due("cut " + link, x.cut(link), 1 - was);
                 due("so it is", x.link(link, 2), 1 - was);
                 due("again", x.cut(link), was);
-                due("cost", x.link(link, 0), link == 3 ? 3 : 1);
+                due("cost", x.link(link, 0), link == 3 ? 1 : 2);
                 due("to undo", x.count(16), 5);
             } else {
                 Checks.stays("cut " + link, Checks::rich, x -> x.cut(link), -1);
@@ -286,6 +302,14 @@ public final class TickEdgesTest {
         due("cut twice", of(PAIR + "cut 0 5;cut 0 5;", 6).link(0, 2), 1);
         due("leave nobody", of(PAIR + "leave b 5;", 6).node(1, 0), 0);
         due("mend what is whole", of(PAIR + "mend 0 5;", 6).link(0, 2), 0);
+        String eight = "node a;node b;" + "link 1 a b;".repeat(8);
+        for (int link = 0; link < 8; link++) {
+            GroupTrees one = of(eight + "cut 2 0;cut 5 0;mend " + link + " 1;cut 7 1;", 2);
+            for (int other = 0; other < 8; other++) {
+                boolean cut = other == 7 || (other == 2 || other == 5) && other != link;
+                due("mend " + link + ", link " + other, one.link(other, 2), cut ? 1 : 0);
+            }
+        }
         about("2: of this TICK: 0 .. 99");
         for (int tick : new int[] {0, 1, 98, 99}) {
             GroupTrees x = of(PAIR + "join b " + tick + ";cut 0 " + tick + ";");
@@ -366,6 +390,8 @@ public final class TickEdgesTest {
         GroupTrees y = of("node a;node b;node c;link 1 a b;link 1 a c;join b 0;join c 0;", 1);
         due("two links", y.count(10), 0);
         due("both held", y.count(12), 2);
+        GroupTrees mixed = of("node a;node b;node c;node d;link 1 a b d;link 1 a c;join b 0;join c 0;join d 0;", 1);
+        due("d behind b, c between", mixed.count(10), 1);
         about("2: in that TREE");
         GroupTrees z = of("node a;node b;node c;link 1 a b c;source s a;source t a;join b 0;join c 0;law switch 1;send s 0;", 2);
         due("one in the shared tree each tick, one in that of s", z.count(10), 3);
@@ -464,6 +490,12 @@ public final class TickEdgesTest {
             due("asserts at " + tick, x.count(11), tick == 2 || tick == 3 ? 1 : 0);
             due("heard at " + tick, x.node(3, 2), tick == 4 || tick == 5 ? 1 : 0);
         }
+        // b and d both hold link 3 for e, c between them holds another one.
+        GroupTrees three = of("node a;node b;node c;node d;node e;node f;link 1 a b;link 1 a c;link 1 a d;link 1 b d e;link 1 c f;"
+            + "source s a;join e 0;join f 0;law metric 9 - place * tick;law switch 0;send s 2;", 3);
+        due("d loses it, whoever sent elsewhere between", three.count(11), 1);
+        due("e misses it", three.node(4, 4), 1);
+        due("f hears it", three.node(5, 2), 1);
         about("2: a number, whoever is there; none for an ASSERT");
         // Numbers modulo 100 from seed 1 on: 38 58 13, then 15 51 27.
         String numbers = wander + "send s 2;send s 4;seed 1;loss ";
@@ -607,6 +639,10 @@ public final class TickEdgesTest {
         return of(PAIR + "law keep " + e + ";").law(2, 0, node);
     }
 
+    private static String power(int bits) {
+        return bits <= 13 ? "" + (1 << bits) : "8192*" + power(bits - 13);
+    }
+
     private static void values() {
         about("2: / is cut towards 0");
         int[] sides = {-7, -2, -1, 0, 1, 2, 7, 9999};
@@ -648,6 +684,12 @@ public final class TickEdgesTest {
         due("the highest by itself", formula(top + "/(" + top + ")", 0), 1);
         due("2 to the 64 isn't 0", formula("4096*1024*1024*(4096*1024*1024)", 0), ERROR);
         due("2 to the 63", formula("4096*1024*1024*(2048*1024*1024)", 0), ERROR);
+        for (int bits = 0; bits < 40; bits++) {
+            due("2 to the " + bits, formula(power(bits), 0), 1L << bits);
+        }
+        for (int bits = 25; bits < 40; bits++) {
+            due("2 to the 64 by " + bits + " bits", formula("(" + power(bits) + ")*(" + power(64 - bits) + ")", 0), ERROR);
+        }
         about("2: both sides are worked out");
         for (String sign : new String[] {"and", "or", "+", "-", "*", "<", "="}) {
             due("0 " + sign, formula("0 " + sign + " (1/0)", 0), ERROR);
@@ -658,6 +700,8 @@ public final class TickEdgesTest {
         due("from the left: -", formula("2-3-4", 0), -5);
         due("from the left: - +", formula("2-3+4", 0), 3);
         due("from the left: / *", formula("100/7*7", 0), 98);
+        due("from the left: * /", formula("7*3/2", 0), 10);
+        due("from the left: + -", formula("7+3-2", 0), 8);
         due("from the left: / /", formula("100/7/2", 0), 7);
         due("* ahead of +", formula("2+3*4+5", 0), 19);
         due("+ ahead of <", formula("1+1<1+2", 0), 1);
@@ -666,6 +710,11 @@ public final class TickEdgesTest {
         due("and ahead of or", formula("1 or 1 and 0", 0), 1);
         due("and ahead of or, first", formula("0 and 1 or 1", 0), 1);
         due("brackets", formula("(2+3)*(4-5)", 0), -5);
+        due("or in brackets", formula("(1 or 0)*7", 0), 7);
+        due("and in brackets", formula("(1 and 1)*7", 0), 7);
+        due("not in brackets", formula("(not 0)*7", 0), 7);
+        due("a comparison in brackets", formula("(1<2)*7", 0), 7);
+        due("or behind and in brackets", formula("(0 and 0 or 1) and 0", 0), 0);
         due("eight of them", formula("((((((((7))))))))", 0), 7);
         due("63 times not", formula("not ".repeat(63) + "0", 0), 1);
         due("31 sums", formula("9999+".repeat(31) + "9999", 0), 319968);

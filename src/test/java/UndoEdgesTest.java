@@ -43,7 +43,7 @@ public final class UndoEdgesTest {
         due("none left", x.undo(), 0);
         due("none", x.undo(), -1);
         due("none again", x.undo(), -1);
-        due("one more", x.listen(0), 1);
+        due("one more", x.listen(3), 1);
         due("can be undone", x.undo(), 0);
         x = Checks.rich();
         x.text(7);
@@ -98,8 +98,9 @@ public final class UndoEdgesTest {
         due("a register", z.count(9), 1);
         z.undo();
         due("none", z.count(9), 0);
-        GroupTrees w = of(Checks.RICH.replace("send s 2;", ""), 3);
-        due("b hears, d doesn't", w.send(0), 2);
+        GroupTrees w = of("node a;node b;node c;node d;link 1 a b;link 1 a c;link 1 b c d;source s a;join d 0;"
+            + "law metric 9 - place * tick;law switch 0;", 3);
+        due("d's up isn't who sends", w.send(0), 0);
         due("an assert", w.count(11), 1);
         w.undo();
         due("none", w.count(11), 0);
@@ -277,12 +278,12 @@ public final class UndoEdgesTest {
         }
         about("38: what could be undone in the IMAGE can't");
         GroupTrees u = of(Checks.RICH, 3);
-        u.listen(0);
+        u.listen(3);
         u.keep();
         due("one now", u.count(16), 1);
         due("back", u.back(), 3);
         due("nothing", u.undo(), -1);
-        due("it listens as then", u.node(0, 0), 1);
+        due("it listens as then", u.node(3, 0), 1);
         about("38: the numbers go on as from the IMAGE");
         String drawn = PAIR + "join b 0;law switch 0;hold 20;seed 8;loss 50;" + "send s 1;".repeat(7) + "send s 3;".repeat(7);
         GroupTrees n = of(drawn, 2);
@@ -329,7 +330,7 @@ public final class UndoEdgesTest {
         due("17", x.count(17), -1);
         due("-2 alone of 13", new GroupTrees().count(13), -2);
         about("39: each of the counts");
-        int[] want = {4, 4, 2, 11, 5, 2};
+        int[] want = {4, 4, 2, 11, 5, 3};
         for (int what = 0; what < want.length; what++) {
             due("what " + what, x.count(what), want[what]);
         }

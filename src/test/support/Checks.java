@@ -11,10 +11,15 @@ final class Checks {
     static final int[] WILD = {Integer.MIN_VALUE, Integer.MIN_VALUE + 1, -100, -2, -1, 0, 1, 2, 3, 4, 5, 6, 7, 8, 9,
         16, 24, 40, 60, 61, 99, 100, 200, 201, 700, 9000, Integer.MAX_VALUE - 1, Integer.MAX_VALUE};
 
-    /** All there is: events, sends, laws, losses, what is held, switched, cut. */
-    static final String RICH = "node a;node b;node c;node d;link 1 a b;link 1 a c;link 1 b c d;link 3 a d;"
-        + "source s a;source t d;join d 0;join b 1;leave b 3;cut 3 2;mend 3 6;send s 2;send t 3;send s 6;send s 7;send t 8;"
-        + "loss 30;seed 5;hold 3;law metric 9 - place * tick;law switch heard > 1;law keep 3 + held;";
+    /**
+     * All there is: by TICK 4 some are HEARD, TWICE, MISSED, REGISTERS, SUPPRESSED, ASSERTS, SWITCHED to both,
+     * and behind it numbers, cuts, holding and switching make a difference to who hears.
+     */
+    static final String RICH = "node a;node b;node c;node d;link 2 b a;link 2 b c d;link 2 d a;link 1 b d c;meet a;"
+        + "source s b;source t d;join c 0;join a 1;join b 0;leave b 3;join c 8;cut 2 2;cut 0 8;mend 0 5;"
+        + "send s 0;send s 1;send s 2;send s 10;send s 8;send s 7;send t 3;send t 7;send t 9;"
+        + "loss 30;seed 52;hold 3;law metric 9 - place * tick;law switch heard > 1;law keep 4 - held;";
+    static final int RICH_LINES = 34;
 
     private static final Set<String> SENTENCES = new HashSet<>();
     private static String sentence = "";
@@ -189,7 +194,7 @@ final class Checks {
         x.known(2);
         x.keep();
         x.go(1);
-        x.listen(2);
+        x.listen(3);
         x.cut(1);
         x.send(0);
         put(x, "node q;node r;");
